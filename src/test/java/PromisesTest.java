@@ -385,7 +385,11 @@ public final class PromisesTest {
         due("a faulty inn", innOf(x, "rise 3;will 9 c=0;fall"), -10 - 22);
         due("told(1)", x.told(1), 7);
         due("of(0, 10)", x.of(0, 10), 5);
+        due("a faulty inn", innOf(x, "rise 3;fall 3;will 9 c=9;w"), -10 - 26);
+        due("a faulty inn", innOf(x, "will 9 c=0&c=1&"), -10 - 15);
         due("an inn", innOf(x, "will 1 ((((c=0))))&((((c=0))))"), 2);
+        due("told(1)", x.told(1), 2);
+        due("told(2)", x.told(2), 1);
         due("of(0, 10)", x.of(0, 10), 6);
         due("an inn", innOf(x, "will 2 !c=1&!c=1&!c=1&!c=1&!c=1|(!c=0)"), 3);
         due("of(0, 10)", x.of(0, 10), 7);
@@ -435,8 +439,14 @@ public final class PromisesTest {
         due("told(6)", x.told(6), 1);
         x.set(0, 0, 4095);
         due("told(6)", x.told(6), 12);
+        due("told(5)", x.told(5), 1);
+        x.set(0, 0, at(1));
+        due("told(5)", x.told(5), 0);
+        x.set(0, 0, 4095);
         x.set(2, 0, 4095);
         due("told(6)", x.told(6), 2);
+        LeavesObject y = cups(0, 0, 0, 4095);
+        due("told(6), all CELLS unlike", y.told(6), 1);
     }
 
     private static void say() {
@@ -521,6 +531,24 @@ public final class PromisesTest {
         due("after(0, 0, -1)", x.after(0, 0, -1), NONE);
     }
 
+    private static void afterOfItsOwn() {
+        promise = "11";
+        LeavesObject x = with("balk 5 c=1&v=3&k=2&l=1&n=2");
+        add(x, 0, 0);
+        x.cup(2, 3, at(3));
+        x.pass(2);
+        x.set(1, 1, 1);
+        due("after(1, 2, 2), all so", x.after(1, 2, 2), 1);
+        due("comes(1, at(2), -1), all so", x.comes(1, at(2), -1), NOT_SO);
+        x.set(1, 0, at(3, 2));
+        due("after(1, 2, 2), l=2", x.after(1, 2, 2), 0);
+        x.set(1, 0, at(3));
+        x.pass(1);
+        x.set(1, 1, 1);
+        due("after(1, 2, 2), n=3", x.after(1, 2, 2), 0);
+        due("comes(1, at(2), -1), n=3", x.comes(1, at(2), -1), 1);
+    }
+
     private static void comes(LeavesObject x, int shape, int many, int... sayings) {
         due("comes(0, " + shape + ", -1)", x.comes(0, shape, -1), many);
         for (int k = 0; k < 4; k++) {
@@ -533,7 +561,9 @@ public final class PromisesTest {
         promise = "12";
         LeavesObject x = cups(0, at(0));
         comes(x, at(0), 0);
+        comes(x, at(0, 1), 1, 0);
         comes(x, at(1), 1, 2);
+        comes(x, at(4), 1, 3);
         comes(x, 0, 1, 1);
         comes(x, at(0, 1, 2), 2, 0, 0);
         comes(x, at(5), 2, 2, 3);
@@ -631,6 +661,12 @@ public final class PromisesTest {
         innOf(x, "balk 5 l>2;fall 1");
         x.set(0, 1, 2);
         due("firstNo(0, 0), FALL 1", x.firstNo(0, 0), NOT_SO);
+    }
+
+    private static void nextOfAllUnlike() {
+        promise = "17";
+        LeavesObject x = cups(0, 0);
+        due("next(4095), no LEAVES", x.next(4095), 0);
     }
 
     private static void show() {
@@ -790,7 +826,12 @@ public final class PromisesTest {
         promise = "22";
         LeavesObject x = new LeavesObject();
         mean(x, NO, NO);
-        add(x, 0, 0, 0, 0);
+        add(x, 0, 0);
+        mean(x, 0, 1);
+        x.set(0, 0, at(1, 2, 11));
+        mean(x, 3, 1);
+        add(x, 0, 0);
+        x.set(0, 0, 0);
         mean(x, 0, 1);
         x.set(0, 0, at(3));
         mean(x, 1, 2);
@@ -1226,6 +1267,7 @@ public final class PromisesTest {
         say();
         pass();
         after();
+        afterOfItsOwn();
         comes();
         comesWithMoods();
         near();
@@ -1233,6 +1275,7 @@ public final class PromisesTest {
         firstNo();
         show();
         next();
+        nextOfAllUnlike();
         see();
         moods();
         can();
