@@ -784,30 +784,24 @@ public final class LeavesObject {
         }
 
         int leavesDone(int saying, int night) {
+            int once = Leaves.forth(saying, leaves);
+            int shily = Integer.bitCount(leaves) > MOST_OF_SHY ? leaves : once;
             switch (kind) {
                 case SHY:
-                    return doneShily(saying);
+                    return shily;
                 case STUBBORN:
                     return Leaves.back(saying, leaves);
                 case PLAIN:
-                    return doneTwice(saying);
+                    return Leaves.forth(saying, once);
                 case BLANK:
-                    return doneShily(saying) & ~ROW_2;
+                    return shily & ~ROW_2;
                 case WISE:
-                    return night % 2 == 0 ? Leaves.forth(saying, leaves) : Leaves.back(saying, leaves);
+                    return night % 2 == 0 ? once : Leaves.back(saying, leaves);
                 case TOLD:
-                    return doneTwice(saying) | lineAt(night % PARTS);
+                    return Leaves.forth(saying, once) | lineAt(night % PARTS);
                 default:
-                    return Leaves.forth(saying, leaves);
+                    return once;
             }
-        }
-
-        private int doneShily(int saying) {
-            return Integer.bitCount(leaves) > MOST_OF_SHY ? leaves : Leaves.forth(saying, leaves);
-        }
-
-        private int doneTwice(int saying) {
-            return Leaves.forth(saying, Leaves.forth(saying, leaves));
         }
     }
 
@@ -964,7 +958,7 @@ public final class LeavesObject {
     /** An INN as it was read: each E of a will or balk as tests, with what joins them behind them. */
     private static final class Inn {
         private static final int WILL_AT_FIRST = 5, RISE_WITHOUT = 2, FALL_WITHOUT = 1;
-        private static final int NUMBERS = 100, SIGNS_BETWEEN = 3;
+        private static final int NUMBERS = 100, SIGNS_BETWEEN = 3, NUMBERS_ASKED = 6;
 
         int rise = RISE_WITHOUT;
         int fall = FALL_WITHOUT;
@@ -973,6 +967,7 @@ public final class LeavesObject {
         private final int[] ends = new int[CLAUSES];
         private int steps;
         private final int[] code = new int[TEXT_MOST];
+        private final int[] asked = new int[NUMBERS_ASKED];
 
         void becomeEmpty() {
             rise = RISE_WITHOUT;
@@ -1001,10 +996,11 @@ public final class LeavesObject {
         }
 
         int willOf(Cup cup, int saying, int night) {
+            ask(cup, saying, night);
             int will = WILL_AT_FIRST;
             int from = 0;
             for (int i = 0; i < changes && i < amounts.length && i < ends.length; i++) {
-                if (holds(from, ends[i], cup, saying, night)) {
+                if (holds(from, ends[i])) {
                     will += amounts[i];
                 }
                 from = ends[i];
@@ -1012,8 +1008,18 @@ public final class LeavesObject {
             return Math.max(will, 0);
         }
 
+        /** In the order of Text.LETTERS. */
+        private void ask(Cup cup, int saying, int night) {
+            asked[0] = cup.number;
+            asked[1] = saying;
+            asked[2] = cup.kind;
+            asked[3] = cup.v;
+            asked[4] = Integer.bitCount(cup.leaves);
+            asked[5] = night % DIGITS;
+        }
+
         /** The bits of one int are the stack: nesting is so low that it never holds more than twelve. */
-        private boolean holds(int from, int to, Cup cup, int saying, int night) {
+        private boolean holds(int from, int to) {
             int stack = 0;
             for (int i = Math.max(from, 0); i < to && i < code.length; i++) {
                 int top = stack & 1;
@@ -1028,40 +1034,26 @@ public final class LeavesObject {
                         stack = stack >> 1 | top;
                         break;
                     default:
-                        stack = stack << 1 | (testHolds(code[i], cup, saying, night) ? 1 : 0);
+                        stack = stack << 1 | (testHolds(code[i]) ? 1 : 0);
                         break;
                 }
             }
             return (stack & 1) == 1;
         }
 
-        private static boolean testHolds(int test, Cup cup, int saying, int night) {
+        private boolean testHolds(int test) {
+            int letter = test / NUMBERS / SIGNS_BETWEEN;
+            if (letter < 0 || letter >= asked.length) {
+                return false;
+            }
             int number = test % NUMBERS;
-            int asked = numberOf(test / NUMBERS / SIGNS_BETWEEN, cup, saying, night);
             switch (test / NUMBERS % SIGNS_BETWEEN) {
                 case 0:
-                    return asked < number;
+                    return asked[letter] < number;
                 case 1:
-                    return asked == number;
+                    return asked[letter] == number;
                 default:
-                    return asked > number;
-            }
-        }
-
-        private static int numberOf(int letter, Cup cup, int saying, int night) {
-            switch (letter) {
-                case 0:
-                    return cup.number;
-                case 1:
-                    return saying;
-                case 2:
-                    return cup.kind;
-                case 3:
-                    return cup.v;
-                case 4:
-                    return Integer.bitCount(cup.leaves);
-                default:
-                    return night % 10;
+                    return asked[letter] > number;
             }
         }
     }

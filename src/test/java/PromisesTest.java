@@ -403,6 +403,17 @@ public final class PromisesTest {
         due("of(0, 10)", x.of(0, 10), 2);
     }
 
+    private static void innBehindManyFaults() {
+        promise = "7";
+        LeavesObject x = new LeavesObject();
+        add(x, 0, 0);
+        for (int i = 0; i < 3; i++) {
+            due("a faulty inn", innOf(x, "will 9 " + "c=0|".repeat(22) + "x"), -10 - 95);
+        }
+        due("an inn", innOf(x, "will 9 !c=0|c=0"), 0);
+        due("of(0, 10)", x.of(0, 10), 14);
+    }
+
     private static void told() {
         promise = "8";
         LeavesObject x = with("rise 3;rise 40;fall 0;fall 12;rise 9");
@@ -1262,6 +1273,7 @@ public final class PromisesTest {
         feeds();
         faults();
         inns();
+        innBehindManyFaults();
         told();
         alikeFirst();
         say();
