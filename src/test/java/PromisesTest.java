@@ -1,3 +1,6 @@
+import java.lang.reflect.Array;
+import java.lang.reflect.Field;
+
 /** Each promise of ../shared/DOC.md with ordinary inputs, its edges and wrong inputs; all that is due is worked out by hand. */
 public final class PromisesTest {
     private static final int NONE = -1, BAD = -2, STATE = -3, FULL = -4, NOT_SO = -5;
@@ -489,6 +492,36 @@ public final class PromisesTest {
             due("say(0, " + none + ")", x.say(0, none), NONE);
         }
         due("say(1, 0)", x.say(1, 0), NONE);
+    }
+
+    private static Object fieldOf(Object holder, String name) throws ReflectiveOperationException {
+        Field field = holder.getClass().getDeclaredField(name);
+        field.setAccessible(true);
+        return field.get(holder);
+    }
+
+    /** No 512 calls bring REFUSED so high: so it is put there from behind. */
+    private static void sayBeyondMost() throws ReflectiveOperationException {
+        promise = "9";
+        LeavesObject x = cups(0, at(0));
+        Object cup = Array.get(fieldOf(fieldOf(x, "now"), "slots"), 0);
+        Field refused = cup.getClass().getDeclaredField("refused");
+        refused.setAccessible(true);
+        refused.setInt(cup, 9998);
+        x.set(0, 1, 9);
+        due("say(0, 2)", x.say(0, 2), 0);
+        due("of(0, 4)", x.of(0, 4), 9999);
+        due("say(0, 2)", x.say(0, 2), STATE);
+        due("say(0, 4)", x.say(0, 4), NONE);
+        due("after(0, 2, 2)", x.after(0, 2, 2), 1);
+        due("firstNo(0, 2)", x.firstNo(0, 2), 1);
+        x.evening(0, 2);
+        due("ends(1)", x.ends(1), 1);
+        x.set(0, 1, 0);
+        due("say(0, 2), willing", x.say(0, 2), STATE);
+        due("of(0, 2)", x.of(0, 2), at(0));
+        due("of(0, 4)", x.of(0, 4), 9999);
+        due("after(0, 2, 0)", x.after(0, 2, 0), at(1));
     }
 
     private static void pass() {
@@ -1260,7 +1293,7 @@ public final class PromisesTest {
         tapeDue(x, 1, 2, 3, 0);
     }
 
-    public static void main(String[] args) {
+    public static void main(String[] args) throws ReflectiveOperationException {
         newObject();
         cup();
         freshCupBehindUndo();
@@ -1277,6 +1310,7 @@ public final class PromisesTest {
         told();
         alikeFirst();
         say();
+        sayBeyondMost();
         pass();
         after();
         afterOfItsOwn();
