@@ -1,68 +1,13 @@
-import java.lang.reflect.Array;
-import java.lang.reflect.Field;
-
 /** Each promise of ../shared/DOC.md with ordinary inputs, its edges and wrong inputs; all that is due is worked out by hand. */
-public final class PromisesTest {
-    private static final int NONE = -1, BAD = -2, STATE = -3, FULL = -4, NOT_SO = -5;
-    private static final int NOTHING = -11, CAST = -12, PLACE = -13, SIZE = -14;
-    private static final long NO = Long.MIN_VALUE;
-    private static final int[] WRONG_CUPS = {-1, 5, 9, Integer.MIN_VALUE, Integer.MAX_VALUE};
-    private static final int[] WRONG_SAYINGS = {-1, 4, Integer.MIN_VALUE, Integer.MAX_VALUE};
-    private static final int[] WRONG_LEAVES = {-1, 4096, Integer.MIN_VALUE, Integer.MAX_VALUE};
-    private static final int[] WRONG_DIGITS = {-1, 10, Integer.MIN_VALUE, Integer.MAX_VALUE};
-    private static final int[] WRONG_TAPES = {-1, 6, Integer.MIN_VALUE, Integer.MAX_VALUE};
-
-    private static String promise = "";
-    private static int wrong = 0;
-
-    private static void due(String call, long got, long want) {
-        if (got != want) {
-            wrong++;
-            System.out.println("promise " + promise + ": " + call + " answered " + got + ", due is " + want);
-        }
-    }
-
-    /** LEAVES in these CELLS. */
-    private static int at(int... cells) {
-        int bits = 0;
-        for (int cell : cells) {
-            bits |= 1 << cell;
-        }
-        return bits;
-    }
-
-    private static void feed(LeavesObject x, String text) {
-        for (int i = 0; i < text.length(); i++) {
-            due("feed of " + text, x.feed(text.charAt(i)), x.count(5));
-        }
-    }
-
-    private static int innOf(LeavesObject x, String text) {
-        feed(x, text);
-        return x.inn();
-    }
-
-    private static LeavesObject with(String inn) {
-        LeavesObject x = new LeavesObject();
-        due("inn of " + inn, innOf(x, inn), 0);
-        return x;
-    }
-
-    private static LeavesObject cups(int... kindsAndLeaves) {
-        LeavesObject x = new LeavesObject();
-        add(x, kindsAndLeaves);
-        return x;
-    }
-
-    private static void add(LeavesObject x, int... kindsAndLeaves) {
-        for (int i = 0; i < kindsAndLeaves.length; i += 2) {
-            int number = x.count(0);
-            due("cup", x.cup(kindsAndLeaves[i], 0, kindsAndLeaves[i + 1]), number);
-        }
-    }
+public final class PromisesTest extends Checks {
+    private static final int[] WRONG_CUPS = {-1, 5, 9, MIN, MAX};
+    private static final int[] WRONG_SAYINGS = {-1, 4, MIN, MAX};
+    private static final int[] WRONG_LEAVES = {-1, 4096, MIN, MAX};
+    private static final int[] WRONG_DIGITS = {-1, 10, MIN, MAX};
+    private static final int[] WRONG_TAPES = {-1, 6, MIN, MAX};
 
     private static void newObject() {
-        promise = "1";
+        about("promise 1");
         LeavesObject x = new LeavesObject();
         for (int what = 0; what <= 6; what++) {
             due("count(" + what + ")", x.count(what), 0);
@@ -83,7 +28,7 @@ public final class PromisesTest {
     }
 
     private static void cup() {
-        promise = "2";
+        about("promise 2");
         LeavesObject x = new LeavesObject();
         due("cup(7, 10, 0)", x.cup(7, 10, 0), NONE);
         due("cup(-1, 0, 0)", x.cup(-1, 0, 0), NONE);
@@ -108,7 +53,7 @@ public final class PromisesTest {
     }
 
     private static void freshCupBehindUndo() {
-        promise = "2";
+        about("promise 2");
         LeavesObject x = new LeavesObject();
         x.image();
         add(x, 6, 0);
@@ -123,7 +68,7 @@ public final class PromisesTest {
     }
 
     private static void of() {
-        promise = "3";
+        about("promise 3");
         LeavesObject x = new LeavesObject();
         x.cup(3, 8, at(4));
         x.set(0, 1, 6);
@@ -157,7 +102,7 @@ public final class PromisesTest {
     }
 
     private static void sayingsDo() {
-        promise = "3";
+        about("promise 3");
         does(0, at(3, 4), at(3, 4, 5), 0, at(0, 5), at(7, 8));
         does(0, at(0, 1, 9), at(0, 1, 2, 9, 10), at(0, 1), at(1, 2, 10), at(1, 4, 5));
         does(0, at(2, 6, 8), at(2, 3, 6, 7, 8, 9), at(2, 6), at(3, 7, 9), at(0, 6, 10));
@@ -177,7 +122,7 @@ public final class PromisesTest {
     }
 
     private static void sayingsDoByNight() {
-        promise = "3";
+        about("promise 3");
         LeavesObject x = cups(5, at(5), 6, at(5));
         x.line(1, 1, 9);
         x.line(1, 2, 2);
@@ -206,7 +151,7 @@ public final class PromisesTest {
     }
 
     private static void wills() {
-        promise = "3";
+        about("promise 3");
         will("will 20 c=1", 25);
         will("will 20 c=0", 5);
         will("will 20 c<2&c>0", 25);
@@ -242,7 +187,7 @@ public final class PromisesTest {
     }
 
     private static void set() {
-        promise = "4";
+        about("promise 4");
         LeavesObject x = cups(0, at(1));
         due("set(0, 0, 4095)", x.set(0, 0, 4095), at(1));
         due("set(0, 0, 0)", x.set(0, 0, 0), 4095);
@@ -266,7 +211,7 @@ public final class PromisesTest {
     }
 
     private static void line() {
-        promise = "5";
+        about("promise 5");
         LeavesObject x = cups(6, 0, 3, 0);
         due("line(0, 3, 9)", x.line(0, 3, 9), 0);
         due("line(0, 0, 1)", x.line(0, 0, 1), 0);
@@ -288,7 +233,7 @@ public final class PromisesTest {
     }
 
     private static void feeds() {
-        promise = "6";
+        about("promise 6");
         LeavesObject x = new LeavesObject();
         due("feed(-1)", x.feed(-1), BAD);
         due("feed(128)", x.feed(128), BAD);
@@ -312,7 +257,7 @@ public final class PromisesTest {
     }
 
     private static void faults() {
-        promise = "7";
+        about("promise 7");
         fault("", 0);
         fault("x", 0);
         fault(";", 0);
@@ -376,7 +321,7 @@ public final class PromisesTest {
     }
 
     private static void inns() {
-        promise = "7";
+        about("promise 7");
         LeavesObject x = new LeavesObject();
         add(x, 0, 0);
         due("an inn", innOf(x, "will 11 " + "c=9|".repeat(22) + "c=00"), 0);
@@ -407,18 +352,18 @@ public final class PromisesTest {
     }
 
     private static void innBehindManyFaults() {
-        promise = "7";
+        about("promise 7");
         LeavesObject x = new LeavesObject();
         add(x, 0, 0);
         for (int i = 0; i < 3; i++) {
-            due("a faulty inn", innOf(x, "will 9 " + "c=0|".repeat(22) + "x"), -10 - 95);
+            due("a faulty inn", innOf(x, "will 9 " + "c=9|".repeat(22) + "x"), -10 - 95);
         }
         due("an inn", innOf(x, "will 9 !c=0|c=0"), 0);
         due("of(0, 10)", x.of(0, 10), 14);
     }
 
     private static void told() {
-        promise = "8";
+        about("promise 8");
         LeavesObject x = with("rise 3;rise 40;fall 0;fall 12;rise 9");
         due("told(1)", x.told(1), 9);
         due("told(2)", x.told(2), 12);
@@ -448,7 +393,7 @@ public final class PromisesTest {
     }
 
     private static void alikeFirst() {
-        promise = "8";
+        about("promise 8");
         LeavesObject x = cups(0, at(0), 0, at(1), 0, at(2));
         due("told(6)", x.told(6), 1);
         x.set(0, 0, 4095);
@@ -464,7 +409,7 @@ public final class PromisesTest {
     }
 
     private static void say() {
-        promise = "9";
+        about("promise 9");
         LeavesObject x = with("balk 5 w=2;rise 4;fall 3");
         add(x, 0, at(0));
         due("say(0, 2)", x.say(0, 2), 1);
@@ -494,20 +439,10 @@ public final class PromisesTest {
         due("say(1, 0)", x.say(1, 0), NONE);
     }
 
-    private static Object fieldOf(Object holder, String name) throws ReflectiveOperationException {
-        Field field = holder.getClass().getDeclaredField(name);
-        field.setAccessible(true);
-        return field.get(holder);
-    }
-
-    /** No 512 calls bring REFUSED so high: so it is put there from behind. */
     private static void sayBeyondMost() throws ReflectiveOperationException {
-        promise = "9";
+        about("promise 9");
         LeavesObject x = cups(0, at(0));
-        Object cup = Array.get(fieldOf(fieldOf(x, "now"), "slots"), 0);
-        Field refused = cup.getClass().getDeclaredField("refused");
-        refused.setAccessible(true);
-        refused.setInt(cup, 9998);
+        putRefused(x, 0, 9998);
         x.set(0, 1, 9);
         due("say(0, 2)", x.say(0, 2), 0);
         due("of(0, 4)", x.of(0, 4), 9999);
@@ -525,7 +460,7 @@ public final class PromisesTest {
     }
 
     private static void pass() {
-        promise = "10";
+        about("promise 10");
         LeavesObject x = cups(0, 0, 1, 0);
         x.set(0, 1, 9);
         x.set(1, 1, 2);
@@ -552,7 +487,7 @@ public final class PromisesTest {
     }
 
     private static void after() {
-        promise = "11";
+        about("promise 11");
         LeavesObject x = with("balk 4 w=0");
         add(x, 0, at(0));
         x.set(0, 1, 2);
@@ -576,7 +511,7 @@ public final class PromisesTest {
     }
 
     private static void afterOfItsOwn() {
-        promise = "11";
+        about("promise 11");
         LeavesObject x = with("balk 5 c=1&v=3&k=2&l=1&n=2");
         add(x, 0, 0);
         x.cup(2, 3, at(3));
@@ -602,7 +537,7 @@ public final class PromisesTest {
     }
 
     private static void comes() {
-        promise = "12";
+        about("promise 12");
         LeavesObject x = cups(0, at(0));
         comes(x, at(0), 0);
         comes(x, at(0, 1), 1, 0);
@@ -611,6 +546,7 @@ public final class PromisesTest {
         comes(x, 0, 1, 1);
         comes(x, at(0, 1, 2), 2, 0, 0);
         comes(x, at(5), 2, 2, 3);
+        comes(x, at(8), 2, 3, 3);
         comes(x, at(3), 3, 2, 2, 2);
         comes(x, at(4, 5, 6, 7), 4, 0, 0, 0, 3);
         comes(x, at(8, 9, 10, 11), NOT_SO);
@@ -627,7 +563,7 @@ public final class PromisesTest {
     }
 
     private static void comesWithMoods() {
-        promise = "12";
+        about("promise 12");
         LeavesObject x = with("balk 5 w=2");
         add(x, 0, at(0));
         x.set(0, 1, 1);
@@ -647,13 +583,14 @@ public final class PromisesTest {
     }
 
     private static void near() {
-        promise = "13";
+        about("promise 13");
         LeavesObject x = cups(0, at(0));
         near(x, at(0), 0, 3, 3, 3);
         near(x, 0, 0, 1, 0, 0);
         near(x, at(1), 1, 0, 1, 1);
         near(x, at(0, 1, 2, 3), 0, 0, 0, 0);
         near(x, 4095, 8, 0, 0, 0);
+        near(x, at(8), 1, 0, 3, 3);
         due("of(0, 2)", x.of(0, 2), at(0));
         for (int none : WRONG_CUPS) {
             due("near(" + none + ", -1, 0)", x.near(none, -1, 0), NONE);
@@ -666,7 +603,7 @@ public final class PromisesTest {
     }
 
     private static void fullest() {
-        promise = "14";
+        about("promise 14");
         LeavesObject x = cups(0, at(0), 4, 4095, 4, at(8), 3, at(0, 4, 8));
         due("fullest(0)", x.fullest(0), 4);
         due("fullest(1)", x.fullest(1), 8);
@@ -684,7 +621,7 @@ public final class PromisesTest {
     }
 
     private static void firstNo() {
-        promise = "15";
+        about("promise 15");
         LeavesObject x = with("balk 5 l>2;fall 0");
         add(x, 0, at(0));
         due("firstNo(0, 0)", x.firstNo(0, 0), NOT_SO);
@@ -708,13 +645,13 @@ public final class PromisesTest {
     }
 
     private static void nextOfAllUnlike() {
-        promise = "17";
+        about("promise 17");
         LeavesObject x = cups(0, 0);
         due("next(4095), no LEAVES", x.next(4095), 0);
     }
 
     private static void show() {
-        promise = "16";
+        about("promise 16");
         LeavesObject x = new LeavesObject();
         due("show(0)", x.show(0), 0);
         due("show(1)", x.show(1), NOT_SO);
@@ -733,7 +670,7 @@ public final class PromisesTest {
     }
 
     private static void next() {
-        promise = "17";
+        about("promise 17");
         LeavesObject x = new LeavesObject();
         due("next(0)", x.next(0), NOT_SO);
         due("next(4096)", x.next(4096), BAD);
@@ -757,7 +694,7 @@ public final class PromisesTest {
     }
 
     private static void see() {
-        promise = "18";
+        about("promise 18");
         LeavesObject x = new LeavesObject();
         due("see(-1, -1)", x.see(-1, -1), 0);
         due("see(4, -1)", x.see(4, -1), NONE);
@@ -783,7 +720,7 @@ public final class PromisesTest {
     }
 
     private static void moods() {
-        promise = "19";
+        about("promise 19");
         LeavesObject x = with("balk 2 w=0");
         add(x, 0, at(0), 0, 0);
         fit("moods", 10, x.moods(0, 0), 0, x.moods(0, 1));
@@ -809,7 +746,7 @@ public final class PromisesTest {
     }
 
     private static void can() {
-        promise = "20";
+        about("promise 20");
         LeavesObject x = with("balk 9 v>4");
         add(x, 0, at(0));
         fit("can", 10, x.can(0, 0), 0, x.can(0, 1));
@@ -838,7 +775,7 @@ public final class PromisesTest {
     }
 
     private static void odds() {
-        promise = "21";
+        about("promise 21");
         LeavesObject x = cups(0, at(0), 4, at(0, 5));
         odds(x, 0, 0, 1, 1);
         odds(x, 0, 1, 3, 4);
@@ -867,7 +804,7 @@ public final class PromisesTest {
     }
 
     private static void mean() {
-        promise = "22";
+        about("promise 22");
         LeavesObject x = new LeavesObject();
         mean(x, NO, NO);
         add(x, 0, 0);
@@ -892,7 +829,7 @@ public final class PromisesTest {
     }
 
     private static void evening() {
-        promise = "23";
+        about("promise 23");
         LeavesObject x = cups(0, 0, 0, 0);
         due("evening(-1, 99)", x.evening(-1, 99), 0);
         due("evening(2, 0)", x.evening(2, 0), NONE);
@@ -917,7 +854,7 @@ public final class PromisesTest {
     }
 
     private static void ends() {
-        promise = "24";
+        about("promise 24");
         LeavesObject x = with("rise 0");
         add(x, 0, at(0), 5, at(5));
         due("ends(0)", x.ends(0), at(0, 5));
@@ -947,7 +884,7 @@ public final class PromisesTest {
     }
 
     private static void book() {
-        promise = "25";
+        about("promise 25");
         LeavesObject x = cups(0, at(0), 0, 0);
         due("book(-1, -1)", x.book(-1, -1), 0);
         due("book(2, -1)", x.book(2, -1), NONE);
@@ -969,7 +906,7 @@ public final class PromisesTest {
     }
 
     private static void looked() {
-        promise = "26";
+        about("promise 26");
         LeavesObject x = cups(0, at(0), 0, at(1));
         due("looked()", x.looked(), NOT_SO);
         x.book(1, at(1));
@@ -985,7 +922,7 @@ public final class PromisesTest {
     }
 
     private static void judge() {
-        promise = "27";
+        about("promise 27");
         LeavesObject x = new LeavesObject();
         due("judge(0, 0)", x.judge(0, 0), NOT_SO);
         add(x, 0, at(0), 0, at(1), 0, 4095);
@@ -1019,7 +956,7 @@ public final class PromisesTest {
     }
 
     private static void imageAndUndo() {
-        promise = "28, 29";
+        about("promise 28, 29");
         LeavesObject x = new LeavesObject();
         due("undo()", x.undo(), STATE);
         due("image()", x.image(), 0);
@@ -1091,7 +1028,7 @@ public final class PromisesTest {
     }
 
     private static void acts() {
-        promise = "30, 31";
+        about("promise 30, 31");
         LeavesObject x = new LeavesObject();
         for (int kind = 0; kind < 5; kind++) {
             x.cup(kind, 3, 0);
@@ -1126,7 +1063,7 @@ public final class PromisesTest {
     }
 
     private static void actsOfNone() {
-        promise = "30, 31";
+        about("promise 30, 31");
         LeavesObject x = new LeavesObject();
         due("act(0, 0, 5)", x.act(0, 0, 5), 0);
         x.cup(0, 1, 0);
@@ -1150,7 +1087,7 @@ public final class PromisesTest {
     }
 
     private static void taken() {
-        promise = "32";
+        about("promise 32");
         int[][] above = {{0}, {0, 1}, {0, 2}, {0, 3}, {0, 1, 4}, {0, 2, 5}, {0, 3, 6}};
         for (int kind = 0; kind <= 6; kind++) {
             LeavesObject x = cups(kind, 0);
@@ -1168,7 +1105,7 @@ public final class PromisesTest {
     }
 
     private static void count() {
-        promise = "33";
+        about("promise 33");
         LeavesObject x = cups(0, 0, 0, 0);
         innOf(x, "rise 1");
         innOf(x, "rise 2");
@@ -1191,7 +1128,7 @@ public final class PromisesTest {
     }
 
     private static void tape() {
-        promise = "34";
+        about("promise 34");
         LeavesObject x = new LeavesObject();
         for (int sort = 0; sort <= 4; sort++) {
             due("tape(0, " + sort + ", 60)", x.tape(0, sort, 60), 1);
@@ -1226,7 +1163,7 @@ public final class PromisesTest {
     }
 
     private static void items() {
-        promise = "35, 36";
+        about("promise 35, 36");
         LeavesObject x = new LeavesObject();
         itemAndRead(x, 0, 127, 127);
         itemAndRead(x, 0, 128, -128);
@@ -1259,7 +1196,7 @@ public final class PromisesTest {
     }
 
     private static void shift() {
-        promise = "37";
+        about("promise 37");
         LeavesObject x = new LeavesObject();
         x.tape(0, 2, 5);
         x.tape(1, 2, 3);
@@ -1340,9 +1277,6 @@ public final class PromisesTest {
         tape();
         items();
         shift();
-        System.out.println(wrong == 0 ? "promises: all answers are as due" : wrong + " answers are not as due");
-        if (wrong != 0) {
-            System.exit(1);
-        }
+        end("promises");
     }
 }
