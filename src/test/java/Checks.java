@@ -141,4 +141,14 @@ abstract class Checks {
         field.setAccessible(true);
         field.setInt(slot, refused);
     }
+
+    /** No act runs more than twelve bodies: so some are begun from behind, numbered as they come. */
+    static void beginBodies(LeavesObject x, int many) throws ReflectiveOperationException {
+        Object acts = fieldOf(x, "acts");
+        Method begin = acts.getClass().getDeclaredMethod("begin", int.class);
+        begin.setAccessible(true);
+        for (int i = 0; i < many; i++) {
+            begin.invoke(acts, i);
+        }
+    }
 }

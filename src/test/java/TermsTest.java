@@ -665,7 +665,7 @@ public final class TermsTest extends Checks {
         due("of(0, 4)", x.of(0, 4), 0);
     }
 
-    /** What a SAYING does soon comes round, so that a first no beyond the first few times is not to be had. */
+    /** Moods never rise ahead of a first no, and new numbers of LEAVES soon end: the eighth time is the last to be had. */
     private static void firstNo() throws IOException {
         sentence("FIRST NO of one and a SAYING: the how manieth time (1 .. 60) it would REFUSE first, were that SAID again and again (-5: not by then).");
         firstNo("fall 0", 6, 0, 1);
@@ -678,6 +678,11 @@ public final class TermsTest extends Checks {
         firstNo("balk 5 l>3;fall 1", 4, 0, 4);
         firstNo("balk 5 l>3;fall 1", 0, 0, NOT_SO);
         firstNo("balk 5 l=0;fall 0", 5, 1, 2);
+        LeavesObject x = with("balk 5 l>11;fall 0");
+        add(x, 2, at(0, 3, 8, 9));
+        due("firstNo(0, 1), MOOD 0", x.firstNo(0, 1), NOT_SO);
+        x.set(0, 1, 1);
+        due("firstNo(0, 1), all CELLS fill", x.firstNo(0, 1), 8);
     }
 
     // ---- 2: what is asked of all
@@ -918,6 +923,31 @@ public final class TermsTest extends Checks {
         due("told(0)", x.told(0), 0);
     }
 
+    private static void eveningOfTheLastNight() throws IOException {
+        sentence("All that follows is asked, goes on from how all is");
+        LeavesObject x = with("will 9 n=0");
+        add(x, 5, at(5));
+        for (int i = 0; i < 166; i++) {
+            x.pass(60);
+        }
+        due("pass(39)", x.pass(39), 9999);
+        x.set(0, 1, 9);
+        x.evening(0, 0);
+        due("ends(0), NIGHT 9999", x.ends(0), at(5));
+        due("ends(1), NIGHT 9999", x.ends(1), 1);
+        x.evening(-1, 0);
+        x.evening(5, 0);
+        x.evening(0, 0);
+        due("ends(0), a NIGHT more", x.ends(0), at(5, 6));
+        due("ends(1), a NIGHT more", x.ends(1), 0);
+        x.evening(5, 0);
+        x.evening(0, 0);
+        due("ends(0), two more", x.ends(0), at(5, 6));
+        due("ends(1), two more", x.ends(1), 1);
+        due("told(0)", x.told(0), 9999);
+        due("pass(1)", x.pass(1), STATE);
+    }
+
     private static void looked() throws IOException {
         sentence("A BOOK told by hand: CUPS, LEAVES (8 at most): LOOKED at: the number of the first of these rows by which it is otherwise now (-5: none).");
         LeavesObject x = cups(0, at(2), 0, 4095);
@@ -989,6 +1019,24 @@ public final class TermsTest extends Checks {
         due("count(6), a later act", x.count(6), 1);
     }
 
+    private static void traceIsFull() throws IOException, ReflectiveOperationException {
+        sentence("the first 20 are kept.");
+        LeavesObject x = cups(0, 0);
+        for (int many : new int[] {19, 20, 21, 90}) {
+            due("act(0, 3, 0), no TRACE", x.act(0, 3, 0), 0);
+            beginBodies(x, many);
+            due("count(6), all of them", x.count(6), many);
+            due("trace(0)", x.trace(0), 0);
+            due("trace(18)", x.trace(18), 18);
+            due("trace(19)", x.trace(19), many > 19 ? 19 : NONE);
+            due("trace(20)", x.trace(20), NONE);
+            due("trace(89)", x.trace(89), NONE);
+        }
+        due("act(0, 0, 5)", x.act(0, 0, 5), 5);
+        due("count(6)", x.count(6), 1);
+        due("trace(1)", x.trace(1), NONE);
+    }
+
     // ---- 2: the image
 
     private static void imageOfAll() throws IOException {
@@ -1041,6 +1089,45 @@ public final class TermsTest extends Checks {
         due("looked()", x.looked(), 7);
         due("ends(0)", x.ends(0), at(1, 2, 3, 4));
         due("moods(0, 0)", x.moods(0, 0), 6);
+    }
+
+    private static void rowsTold(LeavesObject x, int times, int cell) {
+        for (int i = 0; i < times; i++) {
+            x.see(2, at(cell));
+            x.evening(i == 0 ? 0 : 5, 2);
+            x.book(0, at(cell));
+        }
+    }
+
+    /** Fewer rows than there are now, as many of others, and more. */
+    private static void imageOfRows() throws IOException {
+        sentence("All is as THE IMAGE: how many CUPS.");
+        LeavesObject x = cups(0, at(0));
+        rowsTold(x, 2, 1);
+        x.image();
+        for (int times = 0; times <= 3; times++) {
+            if (times > 0) {
+                x.see(-1, 0);
+                x.evening(-1, 0);
+                x.book(-1, 0);
+            }
+            rowsTold(x, times, 0);
+            due("undo()", x.undo(), 1);
+            due("count(2)", x.count(2), 2);
+            due("count(3)", x.count(3), 2);
+            due("count(4)", x.count(4), 2);
+            due("moods(0, 0)", x.moods(0, 0), 6);
+            due("ends(0)", x.ends(0), at(1));
+            due("looked()", x.looked(), 0);
+            x.set(0, 0, at(1));
+            due("looked()", x.looked(), NOT_SO);
+            x.set(0, 0, at(0));
+        }
+        rowsTold(x, 3, 0);
+        due("undo(), there were more", x.undo(), 1);
+        due("count(2)", x.count(2), 2);
+        due("count(3)", x.count(3), 2);
+        due("count(4)", x.count(4), 2);
     }
 
     /** An IMAGE without CUPS, and a newer IMAGE. */
@@ -1184,12 +1271,15 @@ public final class TermsTest extends Checks {
         odds();
         mean();
         ends();
+        eveningOfTheLastNight();
         looked();
         actsWrap();
         bodiesWrap();
         plainTells();
         trace();
+        traceIsFull();
         imageOfAll();
+        imageOfRows();
         images();
         tapesAtFirst();
         judged();
