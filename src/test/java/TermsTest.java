@@ -36,6 +36,27 @@ public final class TermsTest extends Checks {
         }
     }
 
+    private static void bits() throws IOException, ReflectiveOperationException {
+        sentence("What lies where is told as bits (0 .. 4095; bit c: CELL c).");
+        LeavesObject x = cups(0, 0);
+        for (int cell = 0; cell < 12; cell++) {
+            x.set(0, 0, 1 << cell);
+            due("of(0, 2)", x.of(0, 2), 1 << cell);
+            due("told(3)", x.told(3), 1 << cell);
+            due("show", x.show(1 << cell), 1);
+        }
+        answers(x, 0, "see(-1, 0)", "evening(-1, 0)", "book(-1, 0)");
+        answers(x, 2048, "set(0, 0, 0)");
+        answers(x, 0, "comes(0, 0, -1)", "show(0)", "next(0)", "set(0, 0, 4095)");
+        answers(x, 0, "comes(0, 4095, -1)", "near(0, 4095, -1)", "next(4095)");
+        answers(x, 1, "cup(0, 0, 4095)", "see(0, 4095)", "book(0, 4095)", "show(4095)");
+        answers(x, 2, "cup(0, 0, 0)", "see(0, 0)", "book(0, 0)");
+        answers(x, BAD, "cup(0, 0, 4096)", "set(0, 0, 4096)", "comes(0, 4096, 0)", "near(0, 4096, 0)", "show(4096)",
+            "next(4096)", "see(0, 4096)", "book(0, 4096)");
+        answers(x, BAD, "cup(0, 0, -1)", "set(0, 0, -1)", "comes(0, -1, 0)", "near(0, -1, 0)", "show(-1)", "next(-1)",
+            "see(0, -1)", "book(0, -1)");
+    }
+
     private static void nextToOneAnother() throws IOException {
         sentence("CELLS are NEXT to one another, if they are in one ROW, in COLUMNS 1 apart, or in one COLUMN, in ROWS 1 apart.");
         LeavesObject x = cups(0, 0);
@@ -188,6 +209,37 @@ public final class TermsTest extends Checks {
         fault("will 1 |c=1", 7);
         fault("will 1 (c=1", 11);
         fault("will 1 c=1)", 10);
+    }
+
+    /** A letter there is a TEST that holds for 1, and one that doesn't for 0. */
+    private static void holds(String e, boolean[] given, boolean want) {
+        String test = e;
+        for (int i = 0; i < given.length; i++) {
+            test = test.replace((char) ('A' + i), given[i] ? 'T' : 'F');
+        }
+        LeavesObject x = with("will 7 " + test.replace("T", "c=0").replace("F", "c=1"));
+        add(x, 0, 0);
+        due("of(0, 10) by " + test, x.of(0, 10), want ? 12 : 5);
+    }
+
+    private static void eitherAndBoth() throws IOException {
+        sentence("E: T or T|E. T: F or F&T.");
+        for (int bits = 0; bits < 8; bits++) {
+            boolean a = bits % 2 == 1, b = bits / 2 % 2 == 1, c = bits / 4 == 1;
+            boolean[] given = {a, b, c};
+            holds("A", given, a);
+            holds("A|B|C", given, a || b || c);
+            holds("A&B&C", given, a && b && c);
+            holds("A|B&C", given, a || b && c);
+            holds("A&B|C", given, a && b || c);
+            holds("(A|B)&C", given, (a || b) && c);
+            holds("A&(B|C)", given, a && (b || c));
+            holds("!A&B|!C", given, !a && b || !c);
+            holds("!(A|B)&!C", given, !(a || b) && !c);
+            holds("!(A&B|C)", given, !(a && b || c));
+            holds("!!A|!!!B&C", given, a || !b && c);
+            holds("A&B|B&C|C&A", given, a && b || b && c || c && a);
+        }
     }
 
     private static void letter(LeavesObject x, String test, boolean holds) {
@@ -1223,6 +1275,7 @@ public final class TermsTest extends Checks {
 
     public static void main(String[] args) throws IOException, ReflectiveOperationException {
         cells();
+        bits();
         nextToOneAnother();
         fiveCups();
         numbersOfACup();
@@ -1231,6 +1284,7 @@ public final class TermsTest extends Checks {
         clauses();
         words();
         tests();
+        eitherAndBoth();
         letters();
         nightModuloTen();
         within();
