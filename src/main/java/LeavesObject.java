@@ -1186,24 +1186,21 @@ public final class LeavesObject {
 
         private boolean readOne(Inn inn, int depth) {
             int first = sign();
-            if (first != '!' && first != '(') {
-                return readTest(inn);
-            }
-            if (depth >= WITHIN) {
+            if ((first == '!' || first == '(') && depth >= WITHIN) {
                 return false;
             }
-            place++;
             if (first == '(') {
+                place++;
                 return readEither(inn, depth + 1) && readWord(")");
             }
-            if (!readOne(inn, depth + 1)) {
-                return false;
+            if (first == '!') {
+                place++;
+                if (!readOne(inn, depth + 1)) {
+                    return false;
+                }
+                inn.addStep(NOT);
+                return true;
             }
-            inn.addStep(NOT);
-            return true;
-        }
-
-        private boolean readTest(Inn inn) {
             int letter = readOneOf(LETTERS);
             int between = letter < 0 ? -1 : readOneOf(BETWEEN);
             int number = between < 0 ? -1 : readNumber();

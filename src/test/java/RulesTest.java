@@ -1,26 +1,23 @@
 import java.io.IOException;
+import java.lang.reflect.Array;
 import java.lang.reflect.Field;
 import java.lang.reflect.Method;
 import java.lang.reflect.Modifier;
 import java.nio.file.Files;
 import java.nio.file.Path;
+import java.util.Collections;
 import java.util.HashSet;
+import java.util.IdentityHashMap;
 import java.util.List;
 import java.util.Set;
-import java.util.TreeSet;
 import java.util.regex.Matcher;
 import java.util.regex.Pattern;
 
-/** The rules of ../shared/LANGUAGE.md that can be looked at from outside: the face, and what the text holds. */
+/** The rules of ../shared/LANGUAGE.md that can be looked at from outside: names, sizes, and what the text holds. */
 public final class RulesTest {
     private static final String SOURCE = "src/main/java/LeavesObject.java";
-    private static final String FACE = "cup(int,int,int):int of(int,int):int set(int,int,int):int line(int,int,int):int"
-        + " feed(int):int inn():int told(int):int say(int,int):int pass(int):int after(int,int,int):int"
-        + " comes(int,int,int):int near(int,int,int):int fullest(int):int firstNo(int,int):int show(int):int"
-        + " next(int):int see(int,int):int moods(int,int):int can(int,int):int odds(int,int,int):long"
-        + " mean(int):long evening(int,int):int ends(int):int book(int,int):int looked():int judge(int,int):int"
-        + " image():int undo():int act(int,int,int):int trace(int):int taken(int,int):int count(int):int"
-        + " tape(int,int,int):int item(int,int,long):int read(int,int):long shift(int,int,int,int,int):int";
+    /** Of these one run's room holds thousands: 600,000 objects and arrays, 7.3 million fields and elements. */
+    private static final int MOST_OBJECTS = 200, MOST_ELEMENTS = 4000;
 
     private static int wrong = 0;
 
@@ -31,27 +28,14 @@ public final class RulesTest {
         }
     }
 
-    private static String faceOf(Method method) {
-        StringBuilder face = new StringBuilder(method.getName()).append('(');
-        for (Class<?> type : method.getParameterTypes()) {
-            face.append(face.charAt(face.length() - 1) == '(' ? "" : ",").append(type.getName());
-        }
-        return face.append("):").append(method.getReturnType().getName()).toString();
-    }
-
-    private static void face() {
-        Set<String> publics = new TreeSet<>();
+    /** That the face is the document's is looked at in FaceTest. */
+    private static void names() {
         Set<String> names = new HashSet<>();
         for (Method method : LeavesObject.class.getDeclaredMethods()) {
             if (Modifier.isPublic(method.getModifiers())) {
-                publics.add(faceOf(method));
                 names.add(method.getName());
-                must("1: " + method.getName() + " is of the object", !Modifier.isStatic(method.getModifiers()));
             }
         }
-        must("1: the methods are the document's: " + publics, publics.equals(new TreeSet<>(List.of(FACE.split(" ")))));
-        must("1: one constructor", LeavesObject.class.getDeclaredConstructors().length == 1);
-        must("1: the class is public and final", LeavesObject.class.getModifiers() == (Modifier.PUBLIC | Modifier.FINAL));
         for (Method method : LeavesObject.class.getDeclaredMethods()) {
             boolean isPrivate = Modifier.isPrivate(method.getModifiers());
             must("1: " + method.getName() + " is public or private", isPrivate || Modifier.isPublic(method.getModifiers()));
@@ -107,46 +91,42 @@ public final class RulesTest {
         }
     }
 
-    /** So a run makes nothing but what its constructors make. */
-    private static void makesOnlyInConstructors(List<String> lines) {
-        boolean inConstructor = false;
-        String end = "";
-        for (String line : lines) {
-            if (line.matches("\\s+(public |private )?[A-Z]\\w*\\([^)]*\\) \\{")) {
-                inConstructor = true;
-                end = line.replaceAll("\\S.*", "") + "}";
-            } else if (line.equals(end)) {
-                inConstructor = false;
-            }
-            boolean isField = line.matches("\\s+(private )?final .* = new .*;");
-            must("12: made in a constructor: " + line, !line.matches(".*\\bnew\\b.*") || inConstructor || isField);
-        }
-    }
+    private static int objects = 0;
+    private static int elements = 0;
 
-    private static void methodLengths(List<String> lines) {
-        for (String indent : new String[] {"    ", "        "}) {
-            int begin = -1;
-            for (int i = 0; i < lines.size(); i++) {
-                String line = lines.get(i);
-                if (line.matches(indent + "\\S.*\\) \\{")) {
-                    begin = i;
-                }
-                if (line.equals(indent + "}") && begin >= 0) {
-                    must("11: a short method: " + lines.get(begin).trim(), i - begin <= 60);
-                    begin = -1;
-                }
+    private static void countAll(Object one, Set<Object> seen) throws IllegalAccessException {
+        if (one == null || !seen.add(one)) {
+            return;
+        }
+        objects++;
+        if (one.getClass().isArray()) {
+            elements += Array.getLength(one);
+            for (int i = 0; i < Array.getLength(one) && !one.getClass().getComponentType().isPrimitive(); i++) {
+                countAll(Array.get(one, i), seen);
+            }
+            return;
+        }
+        for (Field field : one.getClass().getDeclaredFields()) {
+            if (!Modifier.isStatic(field.getModifiers())) {
+                field.setAccessible(true);
+                elements++;
+                countAll(field.getType().isPrimitive() ? null : field.get(one), seen);
             }
         }
     }
 
-    public static void main(String[] args) throws IOException {
-        face();
+    /** All that an object is ever made of: TreesTest looks that no call makes anything. */
+    private static void room() throws IllegalAccessException {
+        countAll(new LeavesObject(), Collections.newSetFromMap(new IdentityHashMap<>()));
+        must("12: an object is made of " + objects + " objects and arrays", objects <= MOST_OBJECTS);
+        must("12: an object is made of " + elements + " fields and elements", elements <= MOST_ELEMENTS);
+    }
+
+    public static void main(String[] args) throws IOException, IllegalAccessException {
+        names();
         sizes(LeavesObject.class);
-        must("11: at most twelve classes", LeavesObject.class.getDeclaredClasses().length < 12);
-        String source = withoutCommentsAndTexts(Files.readString(Path.of(SOURCE)));
-        words(source);
-        makesOnlyInConstructors(source.lines().toList());
-        methodLengths(source.lines().toList());
+        room();
+        words(withoutCommentsAndTexts(Files.readString(Path.of(SOURCE))));
         System.out.println(wrong == 0 ? "rules: all that were looked at are kept" : wrong + " are not kept");
         if (wrong != 0) {
             System.exit(1);
